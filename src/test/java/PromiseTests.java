@@ -226,6 +226,7 @@ public final class PromiseTests {
         Due.is("not 0+7", gains("not 0+7"), 0);
         Due.is("not not 7", gains("not not 7"), 1);
         Due.is("5 and 7", gains("5 and 7"), 1);
+        Due.is("1 and 1", gains("1 and 1"), 1);
         Due.is("5 and 0", gains("5 and 0"), 0);
         Due.is("0 or 7", gains("0 or 7"), 1);
         Due.is("0 or 0", gains("0 or 0"), 0);
@@ -262,6 +263,9 @@ public final class PromiseTests {
         aFault("gains 1 2;", 8);
         aFault("gains 12luck;", 8);
         aFault("gains lucks;", 6);
+        aFault("gains luckz;", 6);
+        aFault("gains muck;", 6);
+        aFault("gains luc;", 6);
         aFault("gains Luck;", 6);
         aFault("gains 1\t;", 7);
         aFault("gains 1 @;", 8);
@@ -296,6 +300,9 @@ public final class PromiseTests {
         aFault("gains (((((not 7)))));", 11);
         aFault("gains not -(-(-7));", 14);
         Due.is("not and four", gains("not -(-(7))"), 0);
+        // Of each of six levels all five operands wait: 0 or 1 and 2 < 3 + 4 * ( .. ).
+        Due.is("as much as can wait", gains("0or 1and 2<3+4*(".repeat(5) + "0or 1and 2<3+4*5" + ")".repeat(5)), 1);
+        Due.is("and so below 0", gains("9-1*(".repeat(5) + "7" + ")".repeat(5)), 2);
         // Closed ones don't count.
         Due.is("closed (", gains("(((((1)))))+(((((2)))))"), 3);
         Due.is("closed -", gains("-----1+-----2"), -3);
@@ -393,12 +400,24 @@ public final class PromiseTests {
         for (int what = 0; what < 8; what++) Due.is("told(0, " + what + ")", x.told(0, what), due[what]);
         x.put(0, 1, 0);
         Due.is("told(0, 6) without luck", x.told(0, 6), 1);
+        Due.is("told(0, 6) of doors that nobody opened", opensNothing().told(0, 6), 7);
         x.put(0, 0, 7);
         Due.is("told(0, 7) of a house without doors", x.told(0, 7), 128);
+        DoorOfLuck far = town(6, 7, 5, 6, 4, 5, 3, 4, 2, 3, 1, 2, 0, 1);
+        far.person(SOUL, 0);
+        Due.is("told(0, 7) of eight houses in a row", far.told(0, 7), 255);
+        far.put(0, 0, 7);
+        Due.is("and from the other end", far.told(0, 7), 255);
         Due.is("told(0, 8)", x.told(0, 8), VALUE);
         Due.is("told(0, -1)", x.told(0, -1), VALUE);
         Due.is("told(1, 8)", x.told(1, 8), WHO);
         Due.is("told(-1, 0)", x.told(-1, 0), WHO);
+    }
+
+    private static DoorOfLuck opensNothing() {
+        DoorOfLuck x = rowOfHouses();
+        x.person(SOUL, 1);
+        return x;
     }
 
     // ---- opening
@@ -577,6 +596,10 @@ public final class PromiseTests {
         for (int d : new int[] {0, 1, 2, 3, 4, 5, 11}) number = 17 * number + d + 1;
         Due.is("seven doors", far.way(0, 7, 0), 7);
         Due.is("seven doors as a number", far.way(0, 7, 1), number);
+        far.put(0, 0, 5);
+        Due.is("from another house", far.way(0, 7, 0), 2);
+        Due.is("from another house, as a number", far.way(0, 7, 1), 6 * 17 + 12);
+        Due.is("the other way round", far.way(0, 4, 1), 5);
     }
 
     private static void p18() {
@@ -623,6 +646,12 @@ public final class PromiseTests {
         Due.is("friend(-1, 0)", x.friend(-1, 0), WHO);
         Due.is("friend(0, 2)", x.friend(0, 2), VALUE);
         Due.is("friend(0, -1)", x.friend(0, -1), VALUE);
+        DoorOfLuck first = rowOfHouses();
+        first.person(SOUL, 500);
+        first.person(LADY, 100);
+        first.put(1, 2, 0);
+        Due.is("the first of all may be the one", first.friend(1, 0), 0);
+        Due.is("to all four", first.friend(1, 1), 4);
         DoorOfLuck alone = rowOfHouses();
         alone.person(SOUL, 0);
         Due.is("nobody else", alone.friend(0, 0), NONE);
@@ -642,6 +671,9 @@ public final class PromiseTests {
         x.put(2, 2, 2);
         Due.is("of most", x.worst(0), 2);
         Due.is("of how many", x.worst(1), 2);
+        for (int p = 0; p < 3; p++) x.put(p, 2, 0);
+        Due.is("door 0, too", x.worst(0), 0);
+        Due.is("of three", x.worst(1), 3);
         Due.is("worst(2)", x.worst(2), BAD);
         Due.is("worst(-1)", x.worst(-1), BAD);
     }
@@ -663,6 +695,9 @@ public final class PromiseTests {
         Due.is("each one's, together", x.mason(1), 4);
         x.put(0, 2, 0);
         Due.is("an end is no way", x.mason(0), 3);
+        x.put(0, 0, 3);
+        x.put(1, 0, 3);
+        Due.is("from where they are", x.mason(0), 2);
         Due.is("mason(2)", x.mason(2), BAD);
         Due.is("mason(-1)", x.mason(-1), BAD);
     }
@@ -870,6 +905,12 @@ public final class PromiseTests {
         row(x, 1, BYTES, 40, 40);
         Due.is("where neither door is", x.states(0, 1, 0, 0), 255 - 1 - 2 - 4);
         Due.is("in thought", x.told(0, 0) + x.told(0, 2), 1);
+        for (int d = 3; d < 12; d++) x.door(0, d % 4 + 1);
+        row(x, 0, INTS, 8, 0);
+        row(x, 1, BYTES, 0, 5);
+        Due.is("door 8 of twelve, by its end", x.states(0, 1, 0, 2), 256);
+        row(x, 1, BYTES, 45);
+        Due.is("any but door 8", x.states(0, 1, 0, 2), 8191 - 256);
         Due.is("what 1", x.states(0, 1, 0, 1), VALUE);
         Due.is("what 3", x.states(0, 1, 0, 3), VALUE);
         Due.is("what -1", x.states(0, 1, 0, -1), VALUE);
@@ -973,6 +1014,14 @@ public final class PromiseTests {
         Due.is("drawn(0, -1, 0, 0)", x.drawn(0, -1, 0, 0), WHO);
         int[][] bad = {{-1, 0, 0}, {100000, 0, 0}, {0, -1, 0}, {0, 61, 0}, {0, 0, 2}, {0, 0, -1}};
         for (int[] b : bad) Due.is("drawn of a bad number", x.drawn(b[0], 0, b[1], b[2]), VALUE);
+        // SEED 3: 4 * 48271 = 193084 is 1 modulo 3; SEED 99999: 532132706, which is 2 modulo 3.
+        x.put(0, 0, 1);
+        Due.is("seed 3 by door 1", x.drawn(3, 0, 1, 1), 2);
+        x.put(0, 0, 3);
+        Due.is("seed 99999 by door 2", x.drawn(99999, 0, 1, 1), 2);
+        DoorOfLuck one = town(0, 1);
+        one.person(SOUL, 0);
+        Due.is("one door alone, five times", one.drawn(5, 0, 5, 0), 15);
         DoorOfLuck empty = new DoorOfLuck();
         empty.person(SOUL, 512);
         Due.is("no doors: luck", empty.drawn(0, 0, 60, 0), 12);
@@ -993,6 +1042,8 @@ public final class PromiseTests {
             Due.is("above, least " + least, x.odds(7, 40, 0, least, 0), many[least] / gcd);
             Due.is("below, least " + least, x.odds(7, 40, 0, least, 1), 40 / gcd);
         }
+        Due.is("one seed", x.odds(7, 1, 0, x.drawn(7, 0, 20, 0), 0), 1);
+        Due.is("one seed, below", x.odds(7, 1, 0, x.drawn(7, 0, 20, 0), 1), 1);
         Due.is("they may pass 99999", x.odds(99999, 40, 0, 0, 0), 1);
         Due.is("in thought", x.told(0, 1), 0);
         int[][] bad = {{-1, 1, 0, 0, 0}, {100000, 1, 0, 0, 0}, {0, 0, 0, 0, 0}, {0, 41, 0, 0, 0}, {0, 1, 1, 0, 0},
@@ -1066,6 +1117,9 @@ public final class PromiseTests {
         row(x, 1, INTS, 1);
         Due.is("all 0: 3 for each of 40", x.walk(0, 0, 0), 99);
         Due.is("all 0", x.walk(0, 0, 2), 40);
+        row(x, 0, INTS, 9, 9, 9);
+        x.sheet(0, INTS, 3);
+        Due.is("all 0 again", x.walk(0, 0, 2), 3);
         Due.is("none", x.sheet(0, SHORTS, 0), 1);
         Due.is("missing, whatever n", x.sheet(0, -1, 41), 1);
         Due.is("missing", x.cell(0, 0, 0), MISSING);
