@@ -1,46 +1,6 @@
 /** For each promise what the document says of it: ordinary inputs, its edges, refusals and which comes first. */
-public final class PromiseTests {
-    private static final int NONE = -1, BAD = -2, STATE = -3, FULL = -4;
-    private static final int WHO = -5, WHICH_DOOR = -6, VALUE = -7;
-    private static final int MISSING = -11, OUTSIDE = -12, UNLIKE = -13, BELOW = -14;
-    private static final long NO = -4611686018427387904L;
-    private static final int SOUL = 0, FOOTMAN = 10, LADY = 20, BUTLER = 30, WIDOW = 40, GYPSY = 50;
-    private static final int BYTES = 0, SHORTS = 1, INTS = 2;
-
+public final class PromiseTests extends Towns {
     private PromiseTests() {
-    }
-
-    // ---- what the tests build with
-
-    private static void feedAll(DoorOfLuck x, String text) {
-        for (int i = 0; i < text.length(); i++) x.feed(1, text.charAt(i), 0, 0, 0, 0);
-    }
-
-    private static int read(DoorOfLuck x, String text) {
-        feedAll(x, text);
-        return x.text();
-    }
-
-    private static void law(DoorOfLuck x, String text) {
-        int t = read(x, text);
-        Due.is("text of " + text, t > 0 ? 1 : t, 1);
-        x.force(t);
-    }
-
-    private static void row(DoorOfLuck x, int s, int sort, int... cells) {
-        x.sheet(s, sort, cells.length);
-        for (int i = 0; i < cells.length; i++) x.cell(s, i, cells[i]);
-    }
-
-    private static DoorOfLuck town(int... houses) {
-        DoorOfLuck x = new DoorOfLuck();
-        for (int i = 0; i + 1 < houses.length; i += 2) x.door(houses[i], houses[i + 1]);
-        return x;
-    }
-
-    /** Houses 0 - 1 - 2 - 3 in a row, by doors 0, 1, 2. */
-    private static DoorOfLuck rowOfHouses() {
-        return town(0, 1, 1, 2, 2, 3);
     }
 
     /** A text's value: what it gains, of a SOUL with LUCK 40 in HOUSE 2, MORE 6, DAY 9, of DOOR 1, who OPENED door 0. */
