@@ -340,6 +340,17 @@ final class EdgesOfOpening extends Edges {
             each("none", x::mason, NONE, 3);
             Due.is("it is not bricked", x.hung(11, 2), 0);
         });
+        edge(21, "of like ones the first", "the first of twelve, alone and of likes", () -> {
+            DoorOfLuck x = new DoorOfLuck();
+            for (int d = 0; d < 12; d++) x.door(0, 1);
+            x.person(SOUL, 0);
+            for (int d = 0; d < 12; d++) x.brick(d, 1);
+            each("of twelve likes", x::mason, 0, 2);
+            DoorOfLuck y = town(0, 1, 2, 3);
+            y.person(SOUL, 0);
+            y.brick(0, 1);
+            each("alone", y::mason, 0, 2);
+        });
         edge(21, "if to more than so, of like ones the first", "one house more is enough; of like ones the least number", () -> {
             DoorOfLuck x = rowOfHouses();
             x.person(SOUL, 0);

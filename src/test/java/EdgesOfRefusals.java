@@ -158,14 +158,18 @@ final class EdgesOfRefusals extends Edges {
                 x.taken(6, 6);
             }
         }));
-        edge(TERMS, ASKED, "asked, by mason, of a bricked door 0 and the last one", () -> {
-            DoorOfLuck x = rowOfHouses();
-            x.person(SOUL, 0);
-            x.brick(0, 1);
-            x.brick(2, 1);
-            x.mason(0);
-            x.mason(1);
-            each("bricked", d -> x.hung(d, 2), 1, 0, 1);
+        edge(TERMS, ASKED, "asked, by mason, once, of a bricked door 0 and the last one", () -> {
+            for (int what = 0; what < 2; what++) {
+                DoorOfLuck x = rowOfHouses();
+                x.person(SOUL, 0);
+                x.brick(0, 1);
+                x.brick(2, 1);
+                x.mason(what);
+                each("bricked", d -> x.hung(d, 2), 1, 0, 1);
+                x.brick(2, 0);
+                x.mason(what);
+                each("bricked", d -> x.hung(d, 2), 1, 0, 0);
+            }
         });
     }
 

@@ -1,7 +1,6 @@
 /** Boundary cases of the document's head and of 'Terms', but for texts. */
 final class EdgesOfTerms extends Edges {
     private static final int[] ALL = {SOUL, FOOTMAN, LADY, BUTLER, WIDOW, GYPSY};
-    private static final int[] SECOND_TIME = {0, 0, 0, 0, 0};
 
     private EdgesOfTerms() {
     }
@@ -324,7 +323,7 @@ final class EdgesOfTerms extends Edges {
         edge(TERMS, "it is one of those one OPENED;", "a second time, the first and the twelfth door", () -> {
             DoorOfLuck x = town(0, 1, 0, 1, 0, 1, 0, 1, 0, 1, 0, 1, 0, 1, 0, 1, 0, 1, 0, 1, 0, 1, 0, 1);
             x.person(SOUL, 0);
-            for (int v : SECOND_TIME) x.open(0, v);
+            for (int n = 0; n < 5; n++) x.open(0, 0);
             Due.is("door 0 five times", x.told(0, 5), 1);
             for (int d = 11; d > 0; d--) x.open(0, d);
             Due.is("all twelve", x.told(0, 5), 4095);
@@ -490,6 +489,18 @@ final class EdgesOfTerms extends Edges {
             Due.is("the house", x.drawn(99999, 0, 60, 1), 7);
             Due.is("odds of 42", x.odds(0, 40, 0, 42, 0), 1);
             Due.is("odds of 43", x.odds(0, 40, 0, 43, 0), 0);
+        });
+        edge(TERMS, "the first is (SEED and 1) times 48271 modulo 2147483647", "the last seed below it, the first past it", () -> {
+            DoorOfLuck x = new DoorOfLuck();
+            for (int d = 0; d < 12; d++) x.door(0, 1);
+            law(x, "gains door+1;dares 1;leaves 0;");
+            x.person(SOUL, 0);
+            // 44488 * 48271 is 2147480248, and that modulo 12 is 4; 44489 * 48271 is past it by 44872, modulo 12: 4.
+            Due.is("seed 44487", x.drawn(44487, 0, 1, 0), 5);
+            Due.is("seed 44488", x.drawn(44488, 0, 1, 0), 5);
+            // 44490 * 48271 is past it by 93143, modulo 12: 11; 88977 * 48271 twice past it by 41473, modulo 12: 1.
+            Due.is("seed 44489", x.drawn(44489, 0, 1, 0), 12);
+            Due.is("seed 88976", x.drawn(88976, 0, 1, 0), 2);
         });
         edge(TERMS, "each further one the last times 48271 modulo 2147483647", "sixty lots, reckoned with big numbers", () -> {
             int[] star = new int[24];

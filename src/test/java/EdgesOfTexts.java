@@ -74,6 +74,8 @@ final class EdgesOfTexts extends Edges {
             fault("gains Luck;", 6);
             fault("gains lucK;", 6);
             fault("gains luckK;", 10);
+            fault("gains luckz;", 6);
+            fault("gains lucka;", 6);
             fault("gains luck1;", 10);
         });
         edge(TERMS, "NUMBERS (as many digits as stand there; more than 4 are too long)", "one digit, four, five, very many", () -> {
@@ -236,6 +238,7 @@ final class EdgesOfTexts extends Edges {
             fault("gains 1 luck 12345;", 8);
             fault("gains 12345 ) @;", 6);
             fault("gains @ 12345 );", 6);
+            fault("gains ) " + (char) 255, 6);
             fault("  \n gains gains;", 10);
             fault(" ".repeat(159) + "1", 159);
             fault("gains 1;dares 1;leaves 0;" + " ".repeat(134) + "1", 159);

@@ -650,7 +650,10 @@ final class EdgesOfWalks extends Edges {
             x.open(1, 1);
             x.open(5, 10);
             x.dawn(999);
+            for (int t = 1; t < 6; t++) read(x, "gains 3;dares 1;leaves 0;");
+            x.force(5);
             x.image();
+            x.force(1);
             x.brick(0, 0);
             x.brick(11, 0);
             for (int p = 0; p < 6; p++) {
@@ -669,6 +672,7 @@ final class EdgesOfWalks extends Edges {
             }
             for (int d = 0; d < 12; d++) Due.is("brick of " + d, x.hung(d, 2), d == 0 || d == 11 ? 1 : 0);
             Due.is("the day", x.count(2), 999);
+            Due.is("the law", x.count(4), 5);
         });
     }
 }

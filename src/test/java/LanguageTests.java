@@ -7,7 +7,10 @@ import java.nio.charset.StandardCharsets;
 import java.nio.file.Files;
 import java.nio.file.Path;
 import java.util.ArrayList;
+import java.util.Arrays;
+import java.util.Comparator;
 import java.util.List;
+import java.util.Random;
 import java.util.TreeSet;
 import java.util.regex.Matcher;
 import java.util.regex.Pattern;
@@ -100,6 +103,35 @@ public final class LanguageTests {
         }
     }
 
+    private static final int[] WILD = {Integer.MIN_VALUE, Integer.MIN_VALUE + 1, -65536, -32, -2, -1, 0, 1, 2, 3, 5, 6, 7, 8, 11,
+        12, 13, 31, 32, 33, 39, 40, 41, 63, 64, 99, 100, 160, 255, 256, 799, 800, 999, 1000, 65536, 99999, 100000,
+        Integer.MAX_VALUE - 1, Integer.MAX_VALUE};
+
+    /** Any call of the face, by any arguments: it throws, if it does. */
+    private static void callWildly(DoorOfLuck x, Method m, Random random, int most) {
+        Object[] args = new Object[m.getParameterCount()];
+        for (int i = 0; i < args.length; i++) {
+            args[i] = random.nextInt(most) == 0 ? WILD[random.nextInt(WILD.length)] : random.nextInt(13);
+        }
+        try {
+            m.invoke(x, args);
+        } catch (ReflectiveOperationException thrown) {
+            Due.tell(m.getName() + Arrays.toString(args) + ": " + thrown.getCause());
+        }
+    }
+
+    private static void neverThrows() {
+        List<Method> face = new ArrayList<>();
+        for (Method m : DoorOfLuck.class.getDeclaredMethods()) if (Modifier.isPublic(m.getModifiers())) face.add(m);
+        face.sort(Comparator.comparing(Method::getName));
+        for (int seed = 0; seed < 60; seed++) {
+            Random random = new Random(seed);
+            DoorOfLuck x = seed % 2 == 0 ? new DoorOfLuck() : Edges.lived();
+            // More than 512 calls: what these answer is free, but they don't throw either.
+            for (int n = 0; n < 1500; n++) callWildly(x, face.get(random.nextInt(face.size())), random, 1 + seed % 7);
+        }
+    }
+
     /** 512 of the dearest calls make nothing that stays in the room. */
     private static void room() {
         com.sun.management.ThreadMXBean bean =
@@ -145,6 +177,7 @@ public final class LanguageTests {
         Due.test("rule 1: the face", LanguageTests::face);
         Due.test("rules 2, 5, 11: classes, fields, parameters", LanguageTests::inside);
         Due.test("rules 4, 6: words", () -> words(source));
+        Due.test("rule 7: no call throws, for any arguments in any state", LanguageTests::neverThrows);
         Due.test("rule 11: methods are short", () -> methodsAreShort(source));
         Due.test("rule 12: what a run makes", LanguageTests::room);
         Due.close();
