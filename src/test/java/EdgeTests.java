@@ -3,7 +3,7 @@ import java.nio.charset.StandardCharsets;
 import java.nio.file.Files;
 import java.nio.file.Path;
 
-/** The boundary cases that the document's sentences name, promise by promise. */
+/** The document sentence by sentence: the boundary cases that it names, and all else that it says. */
 public final class EdgeTests {
     private EdgeTests() {
     }
@@ -15,8 +15,12 @@ public final class EdgeTests {
         EdgesOfOpening.all();
         EdgesOfWalks.all();
         EdgesOfHost.all();
+        SentencesOfTerms.all();
+        SentencesOfCalls.all();
         String document = Files.readString(Path.of(args[0]), StandardCharsets.UTF_8);
+        Face.all(document, Files.readString(Path.of(args[1]), StandardCharsets.UTF_8));
         Due.test("each test's sentence stands in the document", () -> Edges.quotesStandIn(document));
+        Due.test("each of the document's sentences is a test's", () -> Edges.nothingIsLeftOut(document));
         Due.close();
     }
 }

@@ -32,6 +32,33 @@ class Edges extends Towns {
         }
     }
 
+    /** No word of what the document promises is without a test that is named by it. */
+    static void nothingIsLeftOut(String document) {
+        for (int promise = 0; promise <= 42; promise++) {
+            StringBuilder left = new StringBuilder(promised(document, promise));
+            String section = left.toString();
+            for (int i = 0; i < SENTENCES.size(); i++) {
+                if (PROMISES.get(i) != promise) continue;
+                String sentence = SENTENCES.get(i);
+                for (int at = section.indexOf(sentence); at >= 0; at = section.indexOf(sentence, at + 1)) {
+                    for (int k = at; k < at + sentence.length(); k++) left.setCharAt(k, ' ');
+                }
+            }
+            for (String word : left.toString().split("\\s+")) {
+                if (word.matches(".*[A-Za-z0-9].*")) Due.tell("promise " + promise + ": no test of '" + word + "'");
+            }
+        }
+    }
+
+    /** What is promised: without headings, marks, and the lines of the face, which have tests of their own. */
+    private static String promised(String document, int promise) {
+        String section = section(document, promise);
+        if (promise != TERMS) return section.substring(section.indexOf("`:") + 2);
+        return section.substring(section.indexOf("There is one door"), section.indexOf("## The public face"))
+                + section.substring(section.indexOf("======== 1") + 10, section.indexOf("Ahead of the calls"))
+                        .replaceAll("======== 2|```text", "");
+    }
+
     private static String section(String document, int promise) {
         int from = promise == TERMS ? 0 : document.indexOf("## Promise " + promise + ":");
         int to = document.indexOf("## Promise " + (promise + 1) + ":");
